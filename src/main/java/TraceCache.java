@@ -595,12 +595,19 @@ public final class TraceCache {
         private int put(int address, int kind, int target) {
             program.kinds[address] = kind;
             program.targets[address] = target;
-            for (int i = 0; i < pendingSize; i++) {
-                if (pendingLine[i] == address) {
-                    pendingSize = 0;
-                }
+            if (pendingHolds(address)) {
+                pendingSize = 0;
             }
             return cache.dropHolding(address);
+        }
+
+        private boolean pendingHolds(int address) {
+            for (int i = 0; i < pendingSize; i++) {
+                if (pendingLine[i] == address) {
+                    return true;
+                }
+            }
+            return false;
         }
 
         private int moveTo(int address) {

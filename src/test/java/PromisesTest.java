@@ -145,6 +145,13 @@ public final class PromisesTest {
         duePending(x, 16, 17, 18, 19);
         due("write(18, PLAIN, 0) in the pending line", 0, () -> x.write(18, TraceCache.PLAIN, 0));
         duePending(x);
+        x.run(1);
+        due("write(20, BRANCH, 47), first in the pending line", 0, () -> x.write(20, TraceCache.BRANCH, 47));
+        duePending(x);
+        x.run(1);
+        due("write(20, BRANCH, 47), no longer in the pending line", 0, () -> x.write(20, TraceCache.BRANCH, 47));
+        duePending(x, 24, 25, 26, 27);
+        x.jumpTo(20);
         due("the program counter stays", 20, () -> x.programCounter());
         due("write(20, PLAIN, 5)", 0, () -> x.write(20, TraceCache.PLAIN, 5));
         due("a plain instruction has no target", -1, () -> x.instruction(20, 1));
@@ -658,6 +665,13 @@ public final class PromisesTest {
         x.jumpTo(32);
         x.run(2);
         dueLine(x, 0, 0, 5, 8, 32, 33, 34, 35, 36, 37, 38, 39);
+        TraceCache once = twoFromZero();
+        once.run(1);
+        once.undo();
+        due("counter of 1 after undo of run", 1, () -> once.instruction(1, 5));
+        duePattern(once, 1, 1, 2, 2);
+        dueCounts(once, 12, 6, 20, 8, 2, 2, 1, 2, 0, 0);
+        dueLine(once, 0, 1, 3, 8, 0, 1, 2, 3, 4, 5, 6, 7);
     }
 
     private static void promise12() {
