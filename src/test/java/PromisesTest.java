@@ -1,104 +1,7 @@
 import java.util.concurrent.Callable;
 
 /** For each promise of the document its ordinary inputs, its edges and its wrong inputs; all answers told by hand. */
-public final class PromisesTest {
-    private static final String INDEX = "IndexOutOfBoundsException";
-    private static final String ARGUMENT = "IllegalArgumentException";
-    private static final String STATE = "IllegalStateException";
-    private static final int[] NO_ADDRESSES = {-1, 48, Integer.MIN_VALUE, Integer.MAX_VALUE};
-
-    private static final Check check = new Check();
-    private static String promise = "";
-
-    private static void due(String call, Object want, Callable<?> got) {
-        check.due(promise + ": " + call, want, got);
-    }
-
-    // ---- what several promises ask for
-
-    private static void type(TraceCache x, String text) {
-        for (int i = 0; i < text.length(); i++) {
-            x.appendText(text.charAt(i));
-        }
-    }
-
-    private static TraceCache typed(String text) {
-        TraceCache x = new TraceCache();
-        type(x, text);
-        return x;
-    }
-
-    private static void dueLine(TraceCache x, int set, int way, int use, int usable, int... addresses) {
-        String name = "line(" + set + ", " + way + ", ";
-        due(name + "0)", addresses.length, () -> x.line(set, way, 0));
-        due(name + "1)", usable, () -> x.line(set, way, 1));
-        due(name + "2)", use, () -> x.line(set, way, 2));
-        for (int i = 0; i < 8; i++) {
-            int part = i + 3;
-            due(name + part + ")", i < addresses.length ? addresses[i] : -1, () -> x.line(set, way, part));
-        }
-    }
-
-    private static void dueEmpty(TraceCache x, int set, int way) {
-        for (int i = 0; i <= 10; i++) {
-            int part = i;
-            due("line(" + set + ", " + way + ", " + part + ") of an empty way", -1, () -> x.line(set, way, part));
-        }
-    }
-
-    private static void duePending(TraceCache x, int... addresses) {
-        for (int i = 0; i < 8; i++) {
-            int index = i;
-            due("pending(" + i + ")", i < addresses.length ? addresses[i] : -1, () -> x.pending(index));
-        }
-    }
-
-    private static void dueNext(TraceCache x, int way, int executed, int mispredictions, int... fetched) {
-        due("nextFetch(0)", way, () -> x.nextFetch(0));
-        due("nextFetch(1)", fetched.length, () -> x.nextFetch(1));
-        due("nextFetch(2)", executed, () -> x.nextFetch(2));
-        due("nextFetch(3)", mispredictions, () -> x.nextFetch(3));
-        for (int i = 0; i <= fetched.length; i++) {
-            int index = i;
-            due("wouldFetch(" + i + ")", i < fetched.length ? fetched[i] : -1, () -> x.wouldFetch(index));
-        }
-    }
-
-    private static void dueCounts(TraceCache x, int... counts) {
-        for (int i = 0; i < counts.length; i++) {
-            int what = i;
-            due("count(" + i + ")", counts[i], () -> x.count(what));
-        }
-    }
-
-    private static void duePattern(TraceCache x, int address, int outcomes, int length, int outcomeCount) {
-        due("instruction(" + address + ", 4)", outcomes, () -> x.instruction(address, 4));
-        due("instruction(" + address + ", 3)", length, () -> x.instruction(address, 3));
-        due("instruction(" + address + ", 2)", outcomeCount, () -> x.instruction(address, 2));
-    }
-
-    /** The lines 0 to 7 and 8 to 15 in the set 0, both stored once; the program counter is 16. */
-    private static TraceCache twoLines() {
-        TraceCache x = new TraceCache();
-        x.run(4);
-        return x;
-    }
-
-    /**
-     * A branch at 1, taken and not taken in turn, has made two lines with the start 0: 0, 1, 10 to 15 in the
-     * way 0 and 0 to 7 in the way 1. The program counter is 0, the counter of the branch is 1, it is taken next.
-     */
-    private static TraceCache twoFromZero() {
-        TraceCache x = new TraceCache();
-        x.write(1, TraceCache.BRANCH, 10);
-        x.setPattern(1, 1, 2);
-        x.run(3);
-        x.jumpTo(0);
-        x.run(3);
-        x.jumpTo(0);
-        return x;
-    }
-
+public final class PromisesTest extends Dues {
     // ---- the promises
 
     private static void promise1() {
@@ -933,9 +836,9 @@ public final class PromisesTest {
             PromisesTest::promise20, PromisesTest::promise21, PromisesTest::promise22, PromisesTest::promise23,
             PromisesTest::promise24};
         for (int i = 0; i < promises.length; i++) {
-            promise = "promise " + (i + 1);
+            about("promise " + (i + 1));
             promises[i].run();
         }
-        check.end("PromisesTest");
+        end("PromisesTest");
     }
 }
